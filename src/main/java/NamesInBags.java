@@ -30,6 +30,9 @@ public final class NamesInBags {
     private static final int ASIDE = 2;
     private static final int PUT_BY = 4;
     private static final int SITTING = 5;
+    private static final int ASIDE_AT = MOST_PERSONS * ASIDE;
+    private static final int PUT_BY_AT = MOST_PERSONS * PUT_BY;
+    private static final int SITTING_AT = MOST_PERSONS * SITTING;
     private static final int ALL_BITS = (1 << MOST_PERSONS) - 1;
 
     private final Town town = new Town();
@@ -180,7 +183,7 @@ public final class NamesInBags {
         if (((course.dead >> person) & 1) != 0) {
             return -3;
         }
-        int line = course.lineAgainst(0, chest.sats, person);
+        int line = course.lineAgainst(chest.sats, person);
         return line < 0 ? NOTHING : line;
     }
 
@@ -194,6 +197,7 @@ public final class NamesInBags {
         int drawn = 0;
         while (drawn < MOST_PERSONS && !chest.isOver(course)) {
             int p = drawSlip(chest.part(course.bag));
+            chest.foretell(course);
             drawnSlips[drawn] = p;
             drawn++;
             if (chest.takeOut(course, p)) {
@@ -395,7 +399,7 @@ public final class NamesInBags {
         }
         int bestPack = -1;
         long bestChance = 0;
-        int free = 0;
+        int free = bits;
         int ways = 1 << Integer.bitCount(bits);
         for (int k = 0; k < ways; k++) {
             int packed = (town.packed[bag] & ~bits) | free;
@@ -404,12 +408,12 @@ public final class NamesInBags {
             }
             long chance = walk.chanceOfAny(1 << person);
             boolean better = what == 0 ? chance > bestChance : chance < bestChance;
-            boolean fewer = chance == bestChance && Integer.bitCount(packed) < Integer.bitCount(bestPack);
+            boolean fewer = chance == bestChance && Integer.bitCount(packed) <= Integer.bitCount(bestPack);
             if (bestPack < 0 || better || fewer) {
                 bestPack = packed;
                 bestChance = chance;
             }
-            free = (free - bits) & bits;
+            free = (free - 1) & bits;
         }
         told.tellOne(bestPack);
         told.tell(bestChance);
@@ -424,7 +428,7 @@ public final class NamesInBags {
         int seats = town.seats[drawing];
         int found = 0;
         int most = -1;
-        int free = 0;
+        int free = bits;
         int ways = 1 << Integer.bitCount(bits);
         for (int k = 0; k < ways; k++) {
             int packed = (town.packed[bag] & ~bits) | free;
@@ -433,11 +437,11 @@ public final class NamesInBags {
             }
             if ((walk.whoMaySit() & kin) == 0 && walk.mayFill(seats)) {
                 found++;
-                if (most < 0 || Integer.bitCount(packed) > Integer.bitCount(most)) {
+                if (most < 0 || Integer.bitCount(packed) >= Integer.bitCount(most)) {
                     most = packed;
                 }
             }
-            free = (free - bits) & bits;
+            free = (free - 1) & bits;
         }
         told.clear();
         if (found > 0) {
@@ -452,7 +456,7 @@ public final class NamesInBags {
         }
         int bestPack = -1;
         long least = 0;
-        int free = 0;
+        int free = bits;
         int ways = 1 << Integer.bitCount(bits);
         for (int k = 0; k < ways; k++) {
             int packed = (town.packed[bag] & ~bits) | free;
@@ -460,12 +464,12 @@ public final class NamesInBags {
                 return TOO_MANY;
             }
             long unlike = walk.howUnlike(who);
-            boolean more = unlike == least && Integer.bitCount(packed) > Integer.bitCount(bestPack);
+            boolean more = unlike == least && Integer.bitCount(packed) >= Integer.bitCount(bestPack);
             if (bestPack < 0 || unlike < least || more) {
                 bestPack = packed;
                 least = unlike;
             }
-            free = (free - bits) & bits;
+            free = (free - 1) & bits;
         }
         told.tellOne(bestPack);
         told.tell(least);
@@ -542,7 +546,7 @@ public final class NamesInBags {
         int found = 0;
         int inAll = ALL_BITS;
         int inSome = 0;
-        int free = 0;
+        int free = bits;
         int ways = 1 << Integer.bitCount(bits);
         for (int k = 0; k < ways; k++) {
             int packed = (town.packed[bag] & ~bits) | free;
@@ -555,7 +559,7 @@ public final class NamesInBags {
                 inAll &= packed;
                 inSome |= packed;
             }
-            free = (free - bits) & bits;
+            free = (free - 1) & bits;
         }
         told.tellOne(found > 0 ? inAll : 0);
         told.tell(inSome);
@@ -717,6 +721,7 @@ public final class NamesInBags {
             if (supposed.isOver(course) || ((supposed.part(course.bag) >> p) & 1) == 0) {
                 return i;
             }
+            supposed.foretell(course);
             supposed.takeOut(course, p);
         }
         return n;
@@ -977,6 +982,9 @@ public final class NamesInBags {
         int indebted;
         int away;
         final int[] kin = new int[MOST_PERSONS];
+        int seated;
+        int back;
+        int aside;
 
         Course(Town town) {
             this.town = town;
@@ -1006,31 +1014,75 @@ public final class NamesInBags {
             }
         }
 
-        /** The first LINE that bars a PERSON while these sit; -1: none. */
-        int lineAgainst(int sitting, int sats, int p) {
+        /** The first LINE that bars a PERSON while none sits; -1: none. */
+        int lineAgainst(int sats, int p) {
             for (int line = 0; line < rule.lines; line++) {
-                boolean isBarred = false;
-                switch (rule.kinds[line]) {
-                    case 'k':
-                        isBarred = (sitting & kin[p]) != 0;
-                        break;
-                    case 's':
-                        // As lastIn, one more: written out to keep the calls that stand open few.
-                        int last = (sats >>> (3 * p)) & 7;
-                        isBarred = last > 0 && last <= number && last > number - rule.spans[line];
-                        break;
-                    case 'd':
-                        isBarred = ((indebted >> p) & 1) != 0;
-                        break;
-                    default:
-                        isBarred = ((away >> p) & 1) != 0;
-                        break;
-                }
-                if (isBarred) {
+                if (((barredBy(line, 0, sats) >> p) & 1) != 0) {
                     return line;
                 }
             }
             return -1;
+        }
+
+        /** All whom some LINE bars while none sits. */
+        int barredAtFirst(int sats) {
+            int bits = 0;
+            for (int line = 0; line < rule.lines; line++) {
+                bits |= barredBy(line, 0, sats);
+            }
+            return bits;
+        }
+
+        /** Tells what would become of each slip that is there, if it were the next to be drawn. */
+        void foretell(int there, int sitting, int sats) {
+            seated = there & ~dead;
+            back = 0;
+            aside = 0;
+            for (int line = 0; line < rule.lines; line++) {
+                int barred = seated & barredBy(line, sitting, sats);
+                seated &= ~barred;
+                if (rule.fates[line] == 'b') {
+                    back |= barred;
+                } else if (rule.fates[line] == 'l') {
+                    aside |= barred;
+                }
+            }
+        }
+
+        /** All whom a LINE bars while these sit. */
+        private int barredBy(int line, int sitting, int sats) {
+            switch (rule.kinds[line]) {
+                case 'k':
+                    return kinOf(sitting);
+                case 's':
+                    return satSince(number - rule.spans[line], sats);
+                case 'd':
+                    return indebted;
+                default:
+                    return away;
+            }
+        }
+
+        private int kinOf(int sitting) {
+            int bits = 0;
+            for (int p = 0; p < town.persons && sitting != 0; p++) {
+                if (((sitting >> p) & 1) != 0) {
+                    bits |= kin[p];
+                }
+            }
+            return bits;
+        }
+
+        /** All who sat in a DRAWING from the first one on, ahead of this one. */
+        private int satSince(int first, int sats) {
+            int bits = 0;
+            for (int p = 0; p < town.persons; p++) {
+                int last = ((sats >>> (3 * p)) & 7) - 1;
+                if (last >= 0 && last >= first && last < number) {
+                    bits |= 1 << p;
+                }
+            }
+            return bits;
         }
     }
 
@@ -1079,40 +1131,35 @@ public final class NamesInBags {
                 return;
             }
             int aside = part(ASIDE + bag);
-            int back = 0;
-            for (int p = 0; p < MOST_PERSONS; p++) {
-                if (((aside >> p) & 1) != 0 && course.lineAgainst(0, sats, p) < 0) {
-                    back |= 1 << p;
-                }
+            if (aside != 0) {
+                int back = aside & ~course.barredAtFirst(sats);
+                setPart(bag, part(bag) | back);
+                setPart(ASIDE + bag, aside & ~back);
             }
-            setPart(bag, part(bag) | back);
-            setPart(ASIDE + bag, aside & ~back);
         }
 
         boolean isOver(Course course) {
             return part(course.bag) == 0 || Integer.bitCount(part(SITTING)) >= course.seats;
         }
 
-        /** Draws a slip that is in the BAG: whether its PERSON sits. */
+        void foretell(Course course) {
+            course.foretell(part(course.bag), part(SITTING), sats);
+        }
+
+        /** Draws a slip that is in the BAG, as it was foretold: whether its PERSON sits. */
         boolean takeOut(Course course, int p) {
-            int bag = course.bag;
-            int bit = 1 << p;
-            setPart(bag, part(bag) & ~bit);
-            if ((course.dead & bit) != 0) {
-                return false;
-            }
-            int sitting = part(SITTING);
-            int line = course.lineAgainst(sitting, sats, p);
-            if (line < 0) {
-                setPart(SITTING, sitting | bit);
+            long bit = 1L << p;
+            int bagAt = MOST_PERSONS * course.bag;
+            slips &= ~(bit << bagAt);
+            if (((course.seated >> p) & 1) != 0) {
+                slips |= bit << SITTING_AT;
                 sats = (sats & ~(7 << (3 * p))) | ((course.number + 1) << (3 * p));
                 return true;
             }
-            int fate = course.rule.fates[line];
-            if (fate == 'b') {
-                setPart(PUT_BY, part(PUT_BY) | bit);
-            } else if (fate == 'l') {
-                setPart(ASIDE + bag, part(ASIDE + bag) | bit);
+            if (((course.back >> p) & 1) != 0) {
+                slips |= bit << PUT_BY_AT;
+            } else if (((course.aside >> p) & 1) != 0) {
+                slips |= bit << (ASIDE_AT + bagAt);
             }
             return false;
         }
@@ -1167,7 +1214,7 @@ public final class NamesInBags {
         }
 
         int sittingAt(int i) {
-            return (int) (slips[i] >>> (MOST_PERSONS * SITTING)) & ALL_BITS;
+            return (int) (slips[i] >>> SITTING_AT) & ALL_BITS;
         }
 
         private static int hash(long slips, int sats) {
@@ -1249,6 +1296,7 @@ public final class NamesInBags {
             int slips = Integer.bitCount(there);
             long share = slips > 0 ? now.chances[i] / slips : 0;
             draws += now.chances[i];
+            chest.foretell(course);
             for (int p = 0; p < MOST_PERSONS; p++) {
                 if (((there >> p) & 1) == 0) {
                     continue;
