@@ -197,7 +197,7 @@ public final class NamesInBags {
         int drawn = 0;
         while (drawn < MOST_PERSONS && !chest.isOver(course)) {
             int p = drawSlip(chest.part(course.bag));
-            chest.foretell(course);
+            course.foretell(chest.part(course.bag), chest.part(SITTING), chest.sats);
             drawnSlips[drawn] = p;
             drawn++;
             if (chest.takeOut(course, p)) {
@@ -260,7 +260,7 @@ public final class NamesInBags {
         if (!town.hasPerson(person) || !isAhead(drawing)) {
             return NONE;
         }
-        if (!walkTo(drawing)) {
+        if (!walkBy(rule, 0, drawing)) {
             return TOO_MANY;
         }
         told.tellOne(walk.chanceOfAny(1 << person));
@@ -271,7 +271,7 @@ public final class NamesInBags {
         if (!isAhead(drawing)) {
             return NONE;
         }
-        if (!walkTo(drawing)) {
+        if (!walkBy(rule, 0, drawing)) {
             return TOO_MANY;
         }
         told.clear();
@@ -285,7 +285,7 @@ public final class NamesInBags {
         if (!town.hasPerson(person) || !isDrawingLeft()) {
             return NONE;
         }
-        if (!walkTo(town.drawings - 1)) {
+        if (!walkBy(rule, 0, town.drawings - 1)) {
             return TOO_MANY;
         }
         told.tellOne(walk.chanceSince(person, chest.next));
@@ -296,7 +296,7 @@ public final class NamesInBags {
         if (!isAhead(drawing)) {
             return NONE;
         }
-        if (!walkTo(drawing)) {
+        if (!walkBy(rule, 0, drawing)) {
             return TOO_MANY;
         }
         int seats = town.seats[drawing];
@@ -311,7 +311,7 @@ public final class NamesInBags {
         if (!isAhead(drawing)) {
             return NONE;
         }
-        if (!walkTo(drawing)) {
+        if (!walkBy(rule, 0, drawing)) {
             return TOO_MANY;
         }
         told.tellOne(walk.draws);
@@ -323,7 +323,7 @@ public final class NamesInBags {
         if (house < 0 || house >= MOST_HOUSES || !isAhead(drawing)) {
             return NONE;
         }
-        if (!walkTo(drawing)) {
+        if (!walkBy(rule, 0, drawing)) {
             return TOO_MANY;
         }
         int kin = town.ofHouse(house);
@@ -342,7 +342,7 @@ public final class NamesInBags {
         if (!isAhead(drawing)) {
             return NONE;
         }
-        return walkTo(drawing) ? walk.ends.size : TOO_MANY;
+        return walkBy(rule, 0, drawing) ? walk.ends.size : TOO_MANY;
     }
 
     // ---- what is sure
@@ -351,7 +351,7 @@ public final class NamesInBags {
         if (!isAhead(drawing) || what < 0 || what > 1) {
             return NONE;
         }
-        if (!walkTo(drawing)) {
+        if (!walkBy(rule, 0, drawing)) {
             return TOO_MANY;
         }
         return what == 0 ? walk.whoAlwaysSit() : walk.whoMaySit();
@@ -361,7 +361,7 @@ public final class NamesInBags {
         if (!isAhead(drawing) || !town.hasAll(bits)) {
             return NONE;
         }
-        if (!walkTo(drawing)) {
+        if (!walkBy(rule, 0, drawing)) {
             return TOO_MANY;
         }
         walk.goOnWith(bits);
@@ -480,7 +480,7 @@ public final class NamesInBags {
         if (!town.hasAll(who) || who == 0 || !isAhead(drawing)) {
             return NONE;
         }
-        if (!walkTo(drawing)) {
+        if (!walkBy(rule, 0, drawing)) {
             return TOO_MANY;
         }
         if (othersTold == 0) {
@@ -514,7 +514,7 @@ public final class NamesInBags {
             return TOO_MANY;
         }
         long atWar = walk.chanceOfLess(seats);
-        if (!walkTo(drawing)) {
+        if (!walkBy(rule, 0, drawing)) {
             return TOO_MANY;
         }
         told.tellOne(atWar);
@@ -721,22 +721,21 @@ public final class NamesInBags {
             if (supposed.isOver(course) || ((supposed.part(course.bag) >> p) & 1) == 0) {
                 return i;
             }
-            supposed.foretell(course);
+            course.foretell(supposed.part(course.bag), supposed.part(SITTING), supposed.sats);
             supposed.takeOut(course, p);
         }
         return n;
     }
 
-    private boolean walkTo(int drawing) {
-        course.set(rule, town.packed[0], town.packed[1], 0);
-        walk.start(chest);
-        return walk.go(course, chest.next, drawing);
-    }
-
+    /** False if there are too many unlike ones on the way. */
     private boolean walkBy(Rule by, int absent, int drawing) {
         course.set(by, town.packed[0], town.packed[1], absent);
         walk.start(chest);
-        return walk.go(course, chest.next, drawing);
+        boolean goesOn = true;
+        for (int d = chest.next; d <= drawing && goesOn; d++) {
+            goesOn = walk.pass(course, d);
+        }
+        return goesOn;
     }
 
     private void supposePacked(int bag, int bits) {
@@ -749,7 +748,11 @@ public final class NamesInBags {
 
     private boolean walkPacked(int bag, int bits, int drawing) {
         supposePacked(bag, bits);
-        return walk.go(course, 0, drawing);
+        boolean goesOn = true;
+        for (int d = 0; d <= drawing && goesOn; d++) {
+            goesOn = walk.pass(course, d);
+        }
+        return goesOn;
     }
 
     private boolean walkAsListed() {
@@ -888,7 +891,6 @@ public final class NamesInBags {
         int addPerson(int house) {
             int p = persons;
             houses[p] = house;
-            debts[p] = 0;
             awayFrom[p] = 1;
             awayTo[p] = 0;
             deaths[p] = DAYS;
@@ -1122,7 +1124,6 @@ public final class NamesInBags {
         }
 
         void open(Course course) {
-            setPart(PUT_BY, 0);
             setPart(SITTING, 0);
             int bag = course.bag;
             if (part(bag) == 0 && course.town.renewed[bag]) {
@@ -1140,10 +1141,6 @@ public final class NamesInBags {
 
         boolean isOver(Course course) {
             return part(course.bag) == 0 || Integer.bitCount(part(SITTING)) >= course.seats;
-        }
-
-        void foretell(Course course) {
-            course.foretell(part(course.bag), part(SITTING), sats);
         }
 
         /** Draws a slip that is in the BAG, as it was foretold: whether its PERSON sits. */
@@ -1239,15 +1236,6 @@ public final class NamesInBags {
         }
 
         /** False if there are too many unlike ones. */
-        boolean go(Course course, int first, int last) {
-            for (int d = first; d <= last && d < MOST_DRAWINGS; d++) {
-                if (!pass(course, d)) {
-                    return false;
-                }
-            }
-            return true;
-        }
-
         boolean pass(Course course, int d) {
             course.ready(d);
             openAll(course);
@@ -1296,7 +1284,7 @@ public final class NamesInBags {
             int slips = Integer.bitCount(there);
             long share = slips > 0 ? now.chances[i] / slips : 0;
             draws += now.chances[i];
-            chest.foretell(course);
+            course.foretell(there, chest.part(SITTING), chest.sats);
             for (int p = 0; p < MOST_PERSONS; p++) {
                 if (((there >> p) & 1) == 0) {
                     continue;

@@ -506,6 +506,14 @@ public final class PromisesTest {
         x.seldom();
         due("no drawing left", x.run(), -1);
         row(x, WHOLE);
+        // Those put by are in the bag again behind it.
+        NamesInBags z = town(0, 0, 0);
+        z.pack(0, 7);
+        z.drawing(0, 0, 2);
+        rule(z, "kb");
+        due("one of the three", z.run(), 1);
+        due("all were drawn", z.count(5), 4);
+        due("the others are back", z.bag(0, 0), 7 & ~(1 << (int) numberAt(z, 0)));
         // The least R, whose next one is 12345: without sign and by 65536, 0: the least slip.
         NamesInBags y = packed(10);
         y.drawing(0, 0, 1);
@@ -1034,13 +1042,15 @@ public final class PromisesTest {
         due("bits", x.never(0, 16, 0, 0), -1);
         due("bits", x.never(0, -1, 0, 0), -1);
         row(x, WHOLE);
-        // Of equal ones the least bits: of two kin but one may be packed.
-        NamesInBags y = town(0, 1, 2);
+        // 2 can sit in the second one alone; of 0 and 1 one at most may be packed, to be gone by then.
+        NamesInBags y = town(0, 0, 1);
+        y.pack(0, 4);
+        y.debt(2, 10);
         y.drawing(0, 0, 1);
-        y.drawing(0, 0, 1);
-        rule(y, "s1t");
-        due("never", y.never(0, 7, 3, 0), 7);
-        row(y, 7);
+        y.drawing(10, 0, 1);
+        rule(y, "db");
+        due("never", y.never(0, 3, 0, 1), 3);
+        row(y, 5);
         NamesInBags v = vast();
         due("seven to choose", v.never(0, 127, 0, 0), -1);
         due("too many of some", v.never(0, 1, 0, 1), -3);
@@ -1064,7 +1074,7 @@ public final class PromisesTest {
         row(x, 9, 0);
         due("one that can't counts 0", x.even(0, 0, 9, 0), 0);
         row(x, 8, WHOLE);
-        due("the least bits of equal ones", x.even(0, 6, 7, 0), 0);
+        due("none of them", x.even(0, 6, 7, 0), 0);
         row(x, 8, 0);
         due("nothing changes", x.count(7), 8);
         x.seldom();
@@ -1384,6 +1394,8 @@ public final class PromisesTest {
         x.seed(7);
         x.keep(1);
         due("again(0)", x.again(0), false);
+        due("again(33)", x.again(33), false);
+        due("again(-31)", x.again(-31), false);
         x.run();
         x.seed(9);
         x.begin();
