@@ -399,6 +399,7 @@ public final class NamesInBags {
         }
         int bestPack = -1;
         long bestChance = 0;
+        // The fullest one first, as it shows soonest if there are too many; of equal ones the last has the least bits.
         int free = bits;
         int ways = 1 << Integer.bitCount(bits);
         for (int k = 0; k < ways; k++) {
@@ -480,6 +481,7 @@ public final class NamesInBags {
         if (!town.hasAll(who) || who == 0 || !isAhead(drawing)) {
             return NONE;
         }
+        // -3 comes ahead of all but NONE, so THE RULE is gone through though none may be told.
         if (!walkBy(rule, 0, drawing)) {
             return TOO_MANY;
         }
@@ -1388,16 +1390,16 @@ public final class NamesInBags {
 
         /** The greatest less the least of their CHANCES to sit. */
         long howUnlike(int who) {
-            long greatest = 0;
-            long least = Long.MAX_VALUE;
+            long greatest = -1;
+            long least = -1;
             for (int p = 0; p < MOST_PERSONS; p++) {
                 if (((who >> p) & 1) != 0) {
                     long chance = chanceOfAny(1 << p);
                     greatest = Math.max(greatest, chance);
-                    least = Math.min(least, chance);
+                    least = least < 0 ? chance : Math.min(least, chance);
                 }
             }
-            return least > greatest ? 0 : greatest - least;
+            return greatest - least;
         }
     }
 }
