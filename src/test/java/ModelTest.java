@@ -1107,11 +1107,16 @@ public final class ModelTest {
         return b.length() > 40 ? b.substring(0, 40) : b.toString();
     }
 
-    private static void runs(String title, int from, int runs, int persons, int drawings, int calls, int freeMost) {
+    private static void runs(String title, int from, int runs, int least, int drawings, int calls, int freeMost) {
+        // From least persons to three more; of the great runs some have too many unlike ones.
         for (int i = from; i < from + runs && wrong < 3; i++) {
             Random g = new Random(i);
             Pair x = new Pair(title + " " + i);
-            found(x, g, 1 + g.nextInt(persons), g.nextInt(drawings + 1));
+            found(x, g, least + g.nextInt(4), g.nextInt(drawings + 1));
+            if (least > 6 && g.nextBoolean()) {
+                x.call("pack", 0, (1 << x.model.persons.size()) - 1);
+                x.call("pack", 1, (1 << x.model.persons.size()) - 1);
+            }
             for (int k = 0; k < calls; k++) {
                 oneCall(x, g, freeMost);
             }
@@ -1120,9 +1125,9 @@ public final class ModelTest {
 
     public static void main(String[] args) {
         int times = args.length > 0 ? Integer.parseInt(args[0]) : 1;
-        runs("small run", 1, 400 * times, 4, 4, 60, 4);
-        runs("middle run", 100000, 60 * times, 6, 6, 40, 3);
-        runs("great run", 200000, 12 * times, 10, 6, 25, 2);
+        runs("small run", 1, 400 * times, 1, 4, 60, 4);
+        runs("middle run", 100000, 60 * times, 3, 6, 40, 3);
+        runs("great run", 200000, 30 * times, 7, 6, 60, 2);
         System.out.println(seen[0] + " answers NONE, " + seen[1] + " answers -3, " + seen[2] + " others");
         System.out.println(wrong == 0 ? "all answers are as due" : wrong + " runs are not as due");
         if (wrong != 0) {
