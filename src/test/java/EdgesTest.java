@@ -348,6 +348,82 @@ public final class EdgesTest {
         }
     }
 
+    private static final Call[] ASKING = {x -> x.chance(0, 1), x -> x.each(1), x -> x.ever(0), x -> x.empty(1),
+        x -> x.vain(1), x -> x.house(0, 1), x -> x.ways(1), x -> x.sure(1, 0), x -> x.sure(1, 1), x -> x.sit(1, 1),
+        x -> x.known(), x -> x.best(0, 3, 0, 1, 0), x -> x.best(1, 3, 0, 1, 1), x -> x.never(0, 3, 0, 1),
+        x -> x.never(1, 5, 0, 1), x -> x.even(0, 3, 7, 1), x -> x.even(1, 3, 7, 1), x -> x.fair(7, 1),
+        x -> x.war(0, 1), x -> x.war(3, 1), x -> x.old(0, 3), x -> x.old(1, 3), x -> x.seldom(), x -> x.bars(0),
+        x -> x.judge(0, 1)};
+
+    private static List<Long> answered(NamesInBags x, Call c) {
+        List<Long> all = new ArrayList<>();
+        all.add(c.on(x));
+        tellRow(all, x);
+        return all;
+    }
+
+    /** Two DRAWINGS from BAG 0, both BAGS RENEWED. */
+    private static NamesInBags ruledBy(String rule, String beside) {
+        NamesInBags x = packed(4);
+        x.pack(1, 6);
+        x.renew(0, true);
+        x.renew(1, true);
+        x.drawing(0, 0, 1);
+        x.drawing(0, 0, 2);
+        rule(x, rule);
+        other(x, 1, beside);
+        x.list(1);
+        return x;
+    }
+
+    @Says(at = "Terms", words = "AWAY from a DAY to another one (both in; at first never)")
+    private static void aLineBarsNobodyWhoIsNot() {
+        for (int i = 0; i < ASKING.length; i++) {
+            if (i != 19) {
+                alike("call " + i, answered(ruledBy("wt", "wl"), ASKING[i]), answered(ruledBy("", ""), ASKING[i]));
+            }
+        }
+        NamesInBags war = ruledBy("wt", "");
+        due("but in war", war.war(15, 1), 0);
+        // All four are torn each time: by 4, by 3, by 2, by 1, cut.
+        row(war, 4 * (3 * (2 * (WHOLE / 4 / 3) / 2)), 0);
+    }
+
+    /** Two RULES, two BAGS RENEWED, packed not alike. */
+    private static NamesInBags mixed() {
+        NamesInBags x = town(0, 0, 1, 2);
+        x.pack(0, 3);
+        x.pack(1, 12);
+        x.renew(0, true);
+        x.renew(1, true);
+        x.debt(0, 5);
+        x.away(2, 0, 4);
+        x.drawing(0, 0, 2);
+        x.drawing(4, 1, 2);
+        x.drawing(5, 0, 2);
+        x.drawing(9, 1, 2);
+        rule(x, "dt;wb;kl");
+        other(x, 0, "wt;dl");
+        other(x, 2, "s2t");
+        x.list(2);
+        return x;
+    }
+
+    @Says(at = "Terms", words = "CHANCES, in parts of 1000000000000, of DRAWINGS from the next one on")
+    private static void noAnswerHangsOnWhatWasAsked() {
+        for (int i = 0; i < ASKING.length; i++) {
+            List<Long> alone = answered(mixed(), ASKING[i]);
+            for (int k = 0; k < ASKING.length; k++) {
+                NamesInBags x = mixed();
+                x.each(3);
+                ASKING[k].on(x);
+                List<Long> behind = answered(x, ASKING[i]);
+                boolean noRow = i == 6 || i == 7 || i == 8 || i == 23 || i == 24;
+                alike(i + " behind " + k, noRow ? behind.subList(0, 1) : behind, noRow ? alone.subList(0, 1) : alone);
+            }
+        }
+    }
+
     @Says(at = "Terms", words = "DEAD from a DAY on (at first never)")
     private static void deadFromItsDayOn() {
         due("the day ahead", barsOn(99, "", x -> x.dies(0, 100)), -2);
@@ -624,6 +700,34 @@ public final class EdgesTest {
     }
 
     @Says(at = "Terms", words = RENEWED)
+    private static void eachBagAsItIsPackedItself() {
+        for (int bag = 0; bag < 2; bag++) {
+            NamesInBags x = packed(4);
+            x.pack(bag, 3);
+            x.pack(1 - bag, 12);
+            x.renew(bag, true);
+            x.debt(0, 9);
+            x.drawing(0, bag, 2);
+            x.drawing(9, bag, 2);
+            rule(x, "dl");
+            due("foreseen", x.sure(1, 0), 3);
+            due("foreseen by a packing", x.best(bag, 0, 0, 1, 0), 0);
+            row(x, 3, WHOLE);
+            due("in the other bag", x.best(1 - bag, 12, 0, 1, 0), 0);
+            row(x, 0, WHOLE);
+            due("0 aside, 1 sits", x.hold(0x10, 2), true);
+            due("aside", x.bag(bag, 1), 1);
+            due("2 is not in it", x.judge(2, 1), 0);
+            x.keep(0);
+            due("0 and 1", x.run(), 2);
+            due("none aside", x.bag(bag, 1), 0);
+            x.again(0);
+            due("0 and 1", x.hold(0x01, 2), true);
+            due("the other bag", x.bag(1 - bag, 0), 12);
+        }
+    }
+
+    @Says(at = "Terms", words = RENEWED)
     private static void emptyAndNotRenewed() {
         NamesInBags x = packed(2);
         x.renew(1, true);
@@ -798,6 +902,30 @@ public final class EdgesTest {
         due("empty", x.bag(0, 0), 0);
     }
 
+    @Says(at = "Terms", words = "slips are drawn one by one till all SEATS are filled, or none is left")
+    private static void allTenSlipsAreDrawn() {
+        NamesInBags x = packed(10);
+        for (int p = 0; p < 9; p++) {
+            x.debt(p, 5);
+        }
+        x.drawing(0, 0, 2);
+        x.drawing(5, 0, 1);
+        rule(x, "db");
+        due("9 is sure, a seat is not", x.ways(0), 1);
+        due("9 is sure", x.sure(0, 0), 512);
+        due("empty(0)", x.empty(0), 0);
+        due("none sits never", numberAt(x, 1), 0);
+        due("one sits", numberAt(x, 2) > WHOLE - 10000, true);
+        due("two sit never", numberAt(x, 3), 0);
+        due("vain(0)", x.vain(0), 0);
+        due("ten draws", numberAt(x, 0) > 10 * WHOLE - 100000 && numberAt(x, 0) <= 10 * WHOLE, true);
+        due("nine in vain", numberAt(x, 1) > 9 * WHOLE - 100000 && numberAt(x, 1) <= 9 * WHOLE, true);
+        due("nine are left", x.sure(1, 1), 511);
+        due("run()", x.run(), 1);
+        due("ten drawn", x.count(5), 11);
+        due("nine are left", x.bag(0, 0), 511);
+    }
+
     @Says(at = "Terms", words = "of one who is DEAD it is TORN")
     private static void deadIsTornWhateverLinesSay() {
         for (String rule : new String[] {"", "db", "dl", "dt", "wb;dl"}) {
@@ -843,6 +971,19 @@ public final class EdgesTest {
         due("ends as none is left", x.hold(0x20, 2), true);
         due("in it again", x.bag(0, 0), 1);
         due("not aside", x.bag(0, 1), 0);
+    }
+
+    @Says(at = "Terms", words = "BACK: it is put by, and in the BAG again as the DRAWING ends")
+    private static void backAsItIsRun() {
+        NamesInBags x = town(0, 0, 0);
+        x.drawing(0, 0, 2);
+        x.drawing(0, 0, 2);
+        rule(x, "kb");
+        due("one of the house", x.run(), 1);
+        due("all slips were drawn", x.count(5), 4);
+        due("two are back", x.bag(0, 0), 7 & ~(1 << numberAt(x, 0)));
+        due("one of two", x.run(), 1);
+        due("one is back", Integer.bitCount(x.bag(0, 0)), 1);
     }
 
     @Says(at = "Terms", words = "TORN: it is gone; LAID ASIDE.")
@@ -1117,6 +1258,43 @@ public final class EdgesTest {
     @Says(at = "Terms", words = "or a DRAWING ends in more than 3000 unlike ways, -3 is answered")
     private static void threeThousandEnds() {
         due("3000 ends", fullEnd().ways(2), 3000);
+    }
+
+    @Says(at = "Terms", words = "or a DRAWING ends in more than 3000 unlike ways, -3 is answered")
+    private static void threeThousandEndsAreSummed() {
+        NamesInBags x = fullEnd();
+        due("each(2)", x.each(2), 0);
+        long sum = 0;
+        long[] each = new long[7];
+        for (int p = 0; p < 7; p++) {
+            each[p] = numberAt(x, p);
+            sum += each[p];
+        }
+        due("empty(2)", x.empty(2), 0);
+        due("none or one sits", numberAt(x, 0), numberAt(x, 1));
+        due("one sits", numberAt(x, 2), sum);
+        for (int p = 0; p < 7; p++) {
+            due("chance", x.chance(p, 2), 0);
+            row(x, each[p]);
+            due("best with none to choose", x.best(0, 0, p, 2, p % 2), 0);
+            row(x, 127, each[p]);
+            due("sit", x.sit(2, 1 << p), 1);
+            row(x, each[p]);
+        }
+        due("ever(0)", x.ever(0), 0);
+        due("some chance", numberAt(x, 0) > each[0] && numberAt(x, 0) < WHOLE, true);
+        due("house(1, 2)", x.house(1, 2), 0);
+        row(x, each[3] + each[5] + each[6], each[3] + each[5] + each[6]);
+        due("sure(2, 0)", x.sure(2, 0), 0);
+        due("sure(2, 1)", x.sure(2, 1), 127);
+        due("known()", x.known(), -2);
+        due("never(0, 0, 0, 2)", x.never(0, 0, 0, 2), 0);
+        due("never(0, 0, 5, 2)", x.never(0, 0, 5, 2), 1);
+        due("even(0, 0, 4, 2)", x.even(0, 0, 4, 2), 0);
+        row(x, 127, 0);
+        due("war(0, 2)", x.war(0, 2), 0);
+        due("alike", numberAt(x, 0), numberAt(x, 1));
+        due("vain(2)", x.vain(2), 0);
     }
 
     @Says(at = "Terms", words = "or a DRAWING ends in more than 3000 unlike ways, -3 is answered")
@@ -1617,6 +1795,25 @@ public final class EdgesTest {
         due("THE RULE stays", x.bars(0), 5);
     }
 
+    @Says(at = "Promise 12", words = "THE TEXT, which is empty then, is THE RULE: how many LINES.")
+    private static void linesOfTheOneBeforeAreGone() {
+        NamesInBags x = packed(2);
+        x.debt(0, 5);
+        x.away(0, 5, 5);
+        x.drawing(0, 0, 1);
+        x.drawing(5, 0, 1);
+        rule(x, "dl;wt;wt");
+        rule(x, "dl");
+        due("aside", x.hold(0x10, 2), true);
+        due("none bars", x.bars(0), -2);
+        x.keep(0);
+        due("in it again", x.hold(0, 1), true);
+        due("it sat", x.sat(0), 1);
+        x.again(0);
+        due("seven lines", rule(x, "kb;kb;kb;kb;kb;kb;kt"), 7);
+        due("in it again", x.hold(0, 1), true);
+    }
+
     @Says(at = "Promise 12", words = "-1 - p: the sign at p can't stand there")
     private static void signThatCannotStand() {
         String good = "s1b;kt;dl;wb;s6t;kb";
@@ -1712,6 +1909,7 @@ public final class EdgesTest {
             due("a fault", other(x, i, "x"), -100);
             due("an empty one", other(x, i, ""), -100);
             due("too long", other(x, i, "kb;kb;kb;kb;kb;kb;kb;"), -100);
+            due("it is empty", x.count(4), 0);
             due("none told", x.count(9), 0);
         }
     }
@@ -1881,6 +2079,7 @@ public final class EdgesTest {
         NamesInBags x = packed(1);
         x.drawing(0, 1, 1);
         due("a slip can't be drawn", x.hold(0, 1), false);
+        due("less than none can't be", x.hold(0, -1), false);
         due("it ends with none", x.hold(0, 0), true);
         due("done", x.count(2), 1);
     }
@@ -1889,6 +2088,7 @@ public final class EdgesTest {
     private static void holdDenied() {
         denied("none of three", x -> x.hold(0x421, 0));
         denied("not the last one yet", x -> x.hold(0x21, 2));
+        denied("what stands behind n is not drawn", x -> x.hold(0x421, 2));
         denied("one too many", x -> x.hold(0x0421, 4));
         denied("no such slip", x -> x.hold(0x423, 3));
         denied("twice", x -> x.hold(0x411, 3));
@@ -2024,6 +2224,17 @@ public final class EdgesTest {
         x.hold(1, 1);
         due("what is done does not count", x.ever(1), 0);
         row(x, 0);
+    }
+
+    @Says(at = "Promise 23", words = "The CHANCE that a PERSON sits in some DRAWING not yet done (one that it may sit in twice counts once)")
+    private static void everUpToTheLastOne() {
+        NamesInBags x = packed(4);
+        x.drawing(0, 0, 1);
+        due("of one", x.ever(3), 0);
+        row(x, WHOLE / 4);
+        x.drawing(0, 0, 1);
+        due("of two: in the second one by 3 times a cut twelfth", x.ever(3), 0);
+        row(x, 3 * 83333333333L + 3 * 83333333333L);
     }
 
     @Says(at = "Promise 23", words = "-3; NONE: others, no DRAWING left.")
@@ -2207,6 +2418,23 @@ public final class EdgesTest {
         stays("no drawing at all", () -> packed(2), x -> x.known(), -1);
     }
 
+    @Says(at = "Promise 30", words = "-2: none; -3 (of some up to that one, one by one); NONE: no DRAWING left.")
+    private static void noneIsKnownBehindTheLastOne() {
+        NamesInBags x = town(0, 0, 1);
+        x.pack(0, 3);
+        x.renew(0, true);
+        x.drawing(0, 0, 2);
+        rule(x, "kt");
+        x.keep(0);
+        x.pack(0, 4);
+        x.again(0);
+        // One of 0, 1 sits; were there a second one, 2 would be sure.
+        due("known()", x.known(), -2);
+        x.drawing(0, 0, 2);
+        due("now there is", x.known(), 1);
+        row(x, 4);
+    }
+
     private static NamesInBags unknown() {
         NamesInBags x = packed(3);
         x.drawing(0, 0, 1);
@@ -2324,15 +2552,23 @@ public final class EdgesTest {
 
     @Says(at = "Promise 31", words = "of equal ones the fewest slips, then the least bits")
     private static void fewestSlipsAheadOfLeastBits() {
-        NamesInBags x = packed(3);
-        x.pack(0, 0);
-        x.debt(2, 5);
-        x.drawing(0, 0, 1);
-        x.drawing(5, 0, 1);
-        rule(x, "dl");
-        // With 4 alone, or with one of 1, 2 beside: 2 is sure to sit in the second one.
-        due("best", x.best(0, 7, 2, 1, 0), 0);
-        row(x, 4, WHOLE);
+        NamesInBags x = town(0, 3, 1, 1, 2);
+        x.pack(0, 24);
+        x.drawing(0, 0, 2);
+        x.drawing(0, 0, 2);
+        rule(x, "kb");
+        // 3 is left for the second one half the times, if its kin 2 is beside, or both 0 and 1 are.
+        due("best", x.best(0, 7, 3, 1, 0), 0);
+        row(x, 28, 499999999998L);
+        NamesInBags y = town(1, 1, 3, 3, 0);
+        y.pack(0, 24);
+        y.renew(0, true);
+        y.drawing(0, 0, 3);
+        y.drawing(0, 0, 2);
+        rule(y, "kb");
+        // One of the kin 2, 3 is left, or of 0, 1: so the bag is not renewed, and 4 not in it.
+        due("worst", y.best(0, 7, 4, 1, 1), 0);
+        row(y, 28, 0);
     }
 
     @Says(at = "Promise 31", words = "0; -3 (of some); NONE: others.")
@@ -2455,6 +2691,12 @@ public final class EdgesTest {
         // 4 is never in it, so the least CHANCE of 3 in DRAWING 1 counts: one slip beside.
         due("1 or 2 beside", y.even(0, 6, 24, 1), 0);
         row(y, 11, 333333333332L);
+        NamesInBags kin = town(0, 0, 1);
+        kin.pack(0, 2);
+        kin.drawing(0, 0, 2);
+        rule(kin, "kt");
+        due("2 beside, but not its kin 0", kin.even(0, 5, 6, 0), 0);
+        row(kin, 6, 0);
     }
 
     @Says(at = "Promise 33", words = "0; -3 (of some); NONE: others, who has nobody.")
@@ -2685,9 +2927,13 @@ public final class EdgesTest {
         row(x, 8, 15);
         due("none to choose", x.old(0, 0), 1);
         row(x, 8, 8);
+        due("0 and 2 to choose", x.old(0, 5), 4);
+        row(x, 8, 13);
         x.list(1);
         due("0 sat", x.old(0, 7), 4);
         row(x, 9, 15);
+        due("0 sat, 0 and 2 to choose", x.old(0, 5), 2);
+        row(x, 9, 13);
         due("without 0", x.old(0, 6), 0);
         row(x, 0, 0);
         x.list(14);
@@ -2775,6 +3021,24 @@ public final class EdgesTest {
         due("not more", x.seldom(), 0);
         row(x, 0);
         asks("nothing else changes", EdgesTest::rich, y -> y.seldom(), 0);
+    }
+
+    @Says(at = "Promise 39", words = "The CHANCE of what was listed, from THE CHEST as before all DRAWINGS: the ROW: it (of each DRAWING those THE CHESTS go on with which just these sat).")
+    private static void seldomFromBothBags() {
+        NamesInBags x = packed(4);
+        x.pack(1, 3);
+        x.drawing(0, 1, 1);
+        x.drawing(0, 0, 1);
+        x.list(2);
+        x.list(8);
+        due("one of two, then one of four", x.seldom(), 0);
+        row(x, WHOLE / 8);
+        x.run();
+        x.run();
+        x.renew(0, true);
+        x.renew(1, true);
+        due("the same behind all", x.seldom(), 0);
+        row(x, WHOLE / 8);
     }
 
     @Says(at = "Promise 39", words = "0; -3; NONE: more listed than DRAWINGS.")
