@@ -389,6 +389,50 @@ public final class EdgesTest {
         row(war, 4 * (3 * (2 * (WHOLE / 4 / 3) / 2)), 0);
     }
 
+    /** PERSON 0 alone is in the BAG, and sure to sit. */
+    private static NamesInBags aloneBy(String rule, String beside) {
+        NamesInBags x = packed(2);
+        x.pack(0, 1);
+        x.drawing(0, 0, 1);
+        rule(x, rule);
+        other(x, 1, beside);
+        x.list(1);
+        return x;
+    }
+
+    @Says(at = "Terms", words = "AWAY from a DAY to another one (both in; at first never)")
+    private static void oneAloneWhoIsNotAway() {
+        Call[] all = {x -> x.chance(0, 0), x -> x.each(0), x -> x.ever(0), x -> x.empty(0), x -> x.vain(0),
+            x -> x.house(0, 0), x -> x.ways(0), x -> x.sure(0, 0), x -> x.sure(0, 1), x -> x.sit(0, 1), x -> x.known(),
+            x -> x.best(0, 0, 0, 0, 0), x -> x.never(0, 0, 1, 0), x -> x.even(0, 0, 3, 0), x -> x.fair(3, 0),
+            x -> x.war(0, 0), x -> x.old(0, 0), x -> x.seldom(), x -> x.bars(0), x -> x.judge(0, 1), x -> x.run()};
+        for (int i = 0; i < all.length; i++) {
+            alike("call " + i, answered(aloneBy("wt", ""), all[i]), answered(aloneBy("", ""), all[i]));
+            alike("call " + i, answered(aloneBy("", "wt"), all[i]), answered(aloneBy("", ""), all[i]));
+        }
+        NamesInBags x = aloneBy("wt", "wt");
+        due("fair(3, 0)", x.fair(3, 0), 3);
+        row(x, WHOLE);
+        due("known()", x.known(), 0);
+        row(x, 1);
+    }
+
+    @Says(at = "Promise 34", words = "Of THE RULE (NONE) and the other RULES that were told (0 .. 2)")
+    private static void fairByEachRuleItself() {
+        for (int i = 0; i < 3; i++) {
+            NamesInBags x = packed(2);
+            x.pack(0, 1);
+            x.away(0, 0, 0);
+            x.drawing(0, 0, 1);
+            other(x, i, "wt");
+            due("by the other 0 is barred, as 1 who is not in it", x.fair(3, 0), i);
+            row(x, 0);
+            x.away(0, 1, 0);
+            due("but not if it is not away", x.fair(3, 0), 3);
+            row(x, WHOLE);
+        }
+    }
+
     /** Two RULES, two BAGS RENEWED, packed not alike. */
     private static NamesInBags mixed() {
         NamesInBags x = town(0, 0, 1, 2);
@@ -718,6 +762,8 @@ public final class EdgesTest {
             due("0 aside, 1 sits", x.hold(0x10, 2), true);
             due("aside", x.bag(bag, 1), 1);
             due("2 is not in it", x.judge(2, 1), 0);
+            due("known()", x.known(), 1);
+            row(x, 3);
             x.keep(0);
             due("0 and 1", x.run(), 2);
             due("none aside", x.bag(bag, 1), 0);
@@ -1119,6 +1165,19 @@ public final class EdgesTest {
         due("sit(0, 7)", x.sit(0, 7), 1);
         // Two of them: twice 250000000000 / 3; that by 2, from three such.
         row(x, 3 * (2 * 83333333333L / 2));
+    }
+
+    @Says(at = "Terms", words = "Behind a draw those go on whose DRAWING is not over")
+    private static void thoseThatAreOverDrawNoMore() {
+        NamesInBags x = packed(4);
+        x.dies(0, 0);
+        x.drawing(0, 0, 1);
+        due("vain(0)", x.vain(0), 0);
+        // All draw once; only those who tore the slip of 0 draw again.
+        row(x, WHOLE + WHOLE / 4, WHOLE / 4);
+        x.dies(1, 0);
+        due("vain(0)", x.vain(0), 0);
+        row(x, WHOLE + 2 * (WHOLE / 4) + 2 * (WHOLE / 4 / 3), 2 * (WHOLE / 4) + 2 * (WHOLE / 4 / 3));
     }
 
     @Says(at = "Terms", words = "of those that are over who was put by is in the BAG again, and all that a DRAWING ends with are summed, each alike once")
@@ -2753,6 +2812,16 @@ public final class EdgesTest {
         other(x, 2, "dt;kt");
         due("all alike: THE RULE", x.fair(7, 0), 3);
         row(x, WHOLE / 3 + WHOLE / 6);
+    }
+
+    @Says(at = "Promise 34", words = "(THE RULE is told as 3.)")
+    private static void theRuleIsThree() {
+        for (int i = 0; i < 3; i++) {
+            NamesInBags x = forFair();
+            other(x, i, "db");
+            due("THE RULE is fairer", x.fair(7, 0), 3);
+            row(x, 0);
+        }
     }
 
     @Says(at = "Promise 34", words = "-4: none of the three was told")

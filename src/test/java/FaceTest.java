@@ -2,6 +2,7 @@ import java.lang.management.ManagementFactory;
 import java.lang.reflect.Array;
 import java.lang.reflect.Constructor;
 import java.lang.reflect.Field;
+import java.lang.reflect.InvocationTargetException;
 import java.lang.reflect.Method;
 import java.lang.reflect.Modifier;
 import java.nio.file.Files;
@@ -10,6 +11,8 @@ import java.util.Arrays;
 import java.util.HashSet;
 import java.util.IdentityHashMap;
 import java.util.Map;
+import java.util.NoSuchElementException;
+import java.util.Random;
 import java.util.Set;
 import java.util.TreeSet;
 
@@ -181,9 +184,80 @@ public final class FaceTest {
         x.again(0);
     }
 
+    private static final int[] ODD = {Integer.MIN_VALUE, Integer.MIN_VALUE + 1, -65536, -101, -100, -32, -4, -3, -2, -1, 0,
+        1, 2, 3, 4, 5, 6, 7, 8, 9, 10, 11, 15, 16, 31, 32, 33, 63, 64, 127, 128, 255, 256, 511, 512, 998, 999, 1000, 1001,
+        1022, 1023, 1024, 65535, 65536, Integer.MAX_VALUE - 1, Integer.MAX_VALUE};
+
+    private static final String[] LINES = {"kb", "dl;", "wt", ";s1b", "s6l", "s2t;", "kt;", ";dt", "wl", "x", "s", ";"};
+
+    private static int oddInt(Random g) {
+        return g.nextInt(3) == 0 ? ODD[g.nextInt(ODD.length)] : g.nextInt(3) == 0 ? g.nextInt(1024) : g.nextInt(11);
+    }
+
+    private static Object oddValue(Class<?> type, Random g) {
+        if (type == boolean.class) {
+            return g.nextBoolean();
+        }
+        if (type == long.class) {
+            return g.nextBoolean() ? g.nextLong() : g.nextLong() & 0x1111111111L;
+        }
+        return oddInt(g);
+    }
+
+    /** No call throws, whatever it is told in whatever state; but row, and that where the document says so alone. */
+    private static void anyArguments() throws Exception {
+        Method[] all = NamesInBags.class.getDeclaredMethods();
+        Arrays.sort(all, (a, b) -> a.toString().compareTo(b.toString()));
+        for (int run = 0; run < 150; run++) {
+            Random g = new Random(run);
+            NamesInBags x = new NamesInBags();
+            for (int k = g.nextInt(11); k > 0; k--) {
+                x.person(g.nextInt(6));
+            }
+            for (int k = g.nextInt(7); k > 0; k--) {
+                x.drawing(g.nextInt(3) * k / 6, g.nextInt(2), 1 + g.nextInt(3));
+            }
+            for (int k = 0; k < 400; k++) {
+                Method m = all[g.nextInt(all.length)];
+                if (!Modifier.isPublic(m.getModifiers())) {
+                    continue;
+                }
+                if (m.getName().equals("rule") || m.getName().equals("other")) {
+                    texts(x, g);
+                }
+                Object[] told = Arrays.stream(m.getParameterTypes()).map(t -> oddValue(t, g)).toArray();
+                due("run " + run + " throws in " + m.getName() + Arrays.toString(told), thrown(x, m, told), "nothing");
+            }
+        }
+    }
+
+    private static void texts(NamesInBags x, Random g) {
+        String t = "";
+        for (int k = g.nextInt(8); k > 0; k--) {
+            t += LINES[g.nextInt(LINES.length)];
+        }
+        for (int i = 0; i + 4 <= t.length(); i += 4) {
+            x.sign(t.charAt(i) << 24 | t.charAt(i + 1) << 16 | t.charAt(i + 2) << 8 | t.charAt(i + 3));
+        }
+    }
+
+    private static String thrown(NamesInBags x, Method m, Object[] told) throws Exception {
+        int numbers = x.count(5);
+        try {
+            m.invoke(x, told);
+        } catch (InvocationTargetException e) {
+            boolean isDue = m.getName().equals("row") && e.getCause() instanceof NoSuchElementException
+                && ((int) told[0] < 0 || (int) told[0] >= numbers);
+            return isDue ? "nothing" : e.getCause().toString();
+        }
+        boolean missed = m.getName().equals("row") && ((int) told[0] < 0 || (int) told[0] >= numbers);
+        return missed ? "none where one is due" : "nothing";
+    }
+
     public static void main(String[] args) throws Exception {
         face();
         words();
+        anyArguments();
         room();
         System.out.println(wrong == 0 ? "all is as due" : wrong + " things are not as due");
         if (wrong != 0) {
