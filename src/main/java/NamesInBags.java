@@ -399,11 +399,8 @@ public final class NamesInBags {
         }
         int bestPack = -1;
         long bestChance = 0;
-        // The fullest one first, as it shows soonest if there are too many; of equal ones the last has the least bits.
-        int free = bits;
-        int ways = 1 << Integer.bitCount(bits);
-        for (int k = 0; k < ways; k++) {
-            int packed = (town.packed[bag] & ~bits) | free;
+        for (int way = fullestWay(bits); way >= 0; way--) {
+            int packed = packing(bag, bits, way);
             if (!walkPacked(bag, packed, drawing)) {
                 return TOO_MANY;
             }
@@ -414,7 +411,6 @@ public final class NamesInBags {
                 bestPack = packed;
                 bestChance = chance;
             }
-            free = (free - 1) & bits;
         }
         told.tellOne(bestPack);
         told.tell(bestChance);
@@ -429,10 +425,8 @@ public final class NamesInBags {
         int seats = town.seats[drawing];
         int found = 0;
         int most = -1;
-        int free = bits;
-        int ways = 1 << Integer.bitCount(bits);
-        for (int k = 0; k < ways; k++) {
-            int packed = (town.packed[bag] & ~bits) | free;
+        for (int way = fullestWay(bits); way >= 0; way--) {
+            int packed = packing(bag, bits, way);
             if (!walkPacked(bag, packed, drawing)) {
                 return TOO_MANY;
             }
@@ -442,7 +436,6 @@ public final class NamesInBags {
                     most = packed;
                 }
             }
-            free = (free - 1) & bits;
         }
         told.clear();
         if (found > 0) {
@@ -457,10 +450,8 @@ public final class NamesInBags {
         }
         int bestPack = -1;
         long least = 0;
-        int free = bits;
-        int ways = 1 << Integer.bitCount(bits);
-        for (int k = 0; k < ways; k++) {
-            int packed = (town.packed[bag] & ~bits) | free;
+        for (int way = fullestWay(bits); way >= 0; way--) {
+            int packed = packing(bag, bits, way);
             if (!walkPacked(bag, packed, drawing)) {
                 return TOO_MANY;
             }
@@ -470,7 +461,6 @@ public final class NamesInBags {
                 bestPack = packed;
                 least = unlike;
             }
-            free = (free - 1) & bits;
         }
         told.tellOne(bestPack);
         told.tell(least);
@@ -548,10 +538,8 @@ public final class NamesInBags {
         int found = 0;
         int inAll = ALL_BITS;
         int inSome = 0;
-        int free = bits;
-        int ways = 1 << Integer.bitCount(bits);
-        for (int k = 0; k < ways; k++) {
-            int packed = (town.packed[bag] & ~bits) | free;
+        for (int way = fullestWay(bits); way >= 0; way--) {
+            int packed = packing(bag, bits, way);
             supposePacked(bag, packed);
             if (!walkAsListed()) {
                 return TOO_MANY;
@@ -561,7 +549,6 @@ public final class NamesInBags {
                 inAll &= packed;
                 inSome |= packed;
             }
-            free = (free - 1) & bits;
         }
         told.tellOne(found > 0 ? inAll : 0);
         told.tell(inSome);
@@ -650,6 +637,27 @@ public final class NamesInBags {
 
     private boolean canPack(int bag, int bits) {
         return isBag(bag) && town.hasAll(bits) && Integer.bitCount(bits) <= MOST_FREE_SLIPS;
+    }
+
+    /**
+     * The last of the ways to pack a BAG from PERSONS told as bits, which go from 0 to it. They are gone through from it
+     * down, as too many unlike ones show soonest there; so the later of two with as many slips has the least bits.
+     */
+    private static int fullestWay(int bits) {
+        return (1 << Integer.bitCount(bits)) - 1;
+    }
+
+    /** What a BAG is PACKED with in a way: its bits tell, from the lowest on, which of the free PERSONS are in. */
+    private int packing(int bag, int bits, int way) {
+        int packed = town.packed[bag] & ~bits;
+        int rest = way;
+        for (int p = 0; p < MOST_PERSONS; p++) {
+            if (((bits >> p) & 1) != 0) {
+                packed |= (rest & 1) << p;
+                rest >>= 1;
+            }
+        }
+        return packed;
     }
 
     /** The DRAWING in which a PERSON sat last; -1: none. */
